@@ -109,12 +109,15 @@ public final class AskedTest {
         v.leak(1, 7);
         v.pass(1);
         Check.same("when the gas is lost", v.mix(1), 0);
+        v.store(2, 100, 1, 0, 1000, 1000);
+        Check.same("a single unit", v.mix(4), 20000);
         Check.same("and its heat", v.ofStore(1, 4), 0);
     }
 
     /**
      * 24929 times 673 is 16777217, which as a float is 16777216; that divided by 24929 is below 673 as a float too.
-     * 999999 units of 10000 and one of 9999 have 9999999999, which as a float is 10000000000.
+     * 999999 units of 10000 and one of 9999 have 9999999999, which as a float is 10000000000. 32769 units of 20000
+     * have 655380000, which as a float is 655379968: by doubles that would be less than 20000 times 32769.
      */
     private static void mixesAsFloats() {
         Gasvault v = new Gasvault();
@@ -131,6 +134,10 @@ public final class AskedTest {
         w.pass(3);
         Check.same("heat", w.ofStore(0, 4), 9999999999L);
         Check.same("one more by the float", w.mix(0), 10000);
+        Gasvault x = new Gasvault();
+        x.heat(20000);
+        x.store(2, 100000, 32769, 0, 1000, 1000000);
+        Check.same("divided as floats too", x.mix(0), 20000);
     }
 
     private static void ofStores() {

@@ -32,13 +32,20 @@ final class Check {
         }
     }
 
-    /** The answer of a call, or the name of what it throws. */
+    /** The answer of a call, or the name of what it throws; marked if the library or the machine threw it. */
     static String answer(Gasvault vault, Call call) {
         try {
             return Long.toString(call.on(vault));
         } catch (RuntimeException e) {
-            return e.getClass().getName();
+            String name = e.getClass().getName();
+            return isThrownByItself(e) ? name : name + " not thrown by Gasvault itself";
         }
+    }
+
+    /** A list's own exception bears the right name too, but comes from a place in the library. */
+    private static boolean isThrownByItself(RuntimeException e) {
+        StackTraceElement[] trace = e.getStackTrace();
+        return trace.length > 0 && trace[0].getClassName().startsWith("Gasvault");
     }
 
     /** The call throws just this, and nothing that could be asked now or later is another than without the call. */

@@ -103,6 +103,10 @@ public final class FlowWhyTest {
         v.pass(1);
         Check.same("curtailed", v.ofCustomer(0, 5), 30);
         Check.same("not by step 1", v.ofCustomer(1, 5), 0);
+        v.nominate(1, 5, 1);
+        v.pass(2);
+        Check.same("not a single unit", v.flow(1), 0);
+        Check.same("why not a single unit", v.why(1), 3);
     }
 
     private static void numbers() {

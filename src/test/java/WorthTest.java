@@ -61,6 +61,8 @@ public final class WorthTest {
 
     private static void withinVolumeAndInventory(Worth worth) {
         due(worth, "299 brings 1", scene(299, -9, -9), 2, 9);
+        due(worth, "299 brings 1", scene(299, -9), 1, 9);
+        due(worth, "1 takes 1", scene(1, 9), 1, 9);
         due(worth, "300 brings none", scene(300, -9, -9), 2, 0);
         due(worth, "10 takes 10", scene(10, 9, 9), 2, 90);
         due(worth, "20 takes 15 and 5", scene(20, 9, 9, 9), 3, 180);
