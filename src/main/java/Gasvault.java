@@ -237,7 +237,7 @@ public final class Gasvault {
         if (!isWithin(hours, 1, MOST_WORTH_HOURS)) {
             throw new IllegalArgumentException("hours is out of range");
         }
-        return bestSum(one, one.inventory, hour, hours);
+        return bestSum(one, prices, one.inventory, hour, hours);
     }
 
     public long worthAnew(int customer, int hours) throws IndexOutOfBoundsException, IllegalArgumentException {
@@ -433,19 +433,19 @@ public final class Gasvault {
     // ---- worth
 
     /** The greatest sum of the hours left, from the hour at on; hours are at most 8, and so is the depth. */
-    private long bestSum(Customer one, int inventory, int at, int left) {
+    private static long bestSum(Customer one, Hours prices, int inventory, int at, int left) {
         if (left <= 0 || left > MOST_WORTH_HOURS) {
             return 0;
         }
-        long best = bestSum(one, inventory, at + 1, left - 1);
+        long best = bestSum(one, prices, inventory, at + 1, left - 1);
         long cents = prices.at(at);
         int in = one.mostIn(inventory);
         if (in > 0) {
-            best = Math.max(best, bestSum(one, inventory + in, at + 1, left - 1) - in * cents);
+            best = Math.max(best, bestSum(one, prices, inventory + in, at + 1, left - 1) - in * cents);
         }
         int out = one.mostOut(inventory);
         if (out > 0) {
-            best = Math.max(best, bestSum(one, inventory - out, at + 1, left - 1) + out * cents);
+            best = Math.max(best, bestSum(one, prices, inventory - out, at + 1, left - 1) + out * cents);
         }
         return best;
     }

@@ -33,6 +33,36 @@ final class Scenes {
         return v;
     }
 
+    /** The last customer, 5, of this kind, with an inventory up to 1000000; the hour is 6. */
+    static Gasvault rich(int volume, int in, int out, int inventory) {
+        Gasvault v = new Gasvault();
+        for (int i = 0; i < 5; i++) {
+            v.store(Gasvault.LAYER, 100000, 0, 0, 1000, 1000000);
+            v.wells(i, 100, 1000);
+            v.customer(1000000, 100000, 100000, 0);
+            v.nominate(i, 2, 100000);
+            v.nominate(i, 3, 100000);
+        }
+        v.customer(volume, in, out, 0);
+        v.pass(6);
+        int left = inventory;
+        for (int i = 0; i < 5 && left > 0; i++) {
+            int part = Math.min(left, 200000);
+            v.transfer(i, 5, part);
+            left -= part;
+        }
+        return v;
+    }
+
+    /** The busy one at the last hour but so many. */
+    static Gasvault late(int left) {
+        Gasvault v = busy();
+        for (int hour = 30; hour < 9900 - left; hour = (int) v.of(0)) {
+            v.pass(Math.min(240, 9900 - left - hour));
+        }
+        return v;
+    }
+
     /** Four stores, five customers and nineteen laws, each with something told, in the middle of a day. */
     static Gasvault busy() {
         Gasvault v = new Gasvault();
